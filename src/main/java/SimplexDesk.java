@@ -453,6 +453,8 @@ public final class SimplexDesk {
         long hash = HASH_START;
         hash = mixCounts(hash);
         hash = mixValues(hash);
+        hash = mix(hash, pivotsLeft());
+        hash = mix(hash, savedCount);
         hash = mixProblem(hash);
         hash = mixColumns(hash);
         hash = mixRows(hash);
@@ -494,9 +496,7 @@ public final class SimplexDesk {
         mixed = mix(mixed, survey.feasible);
         mixed = mix(mixed, survey.unlike);
         mixed = mix(mixed, survey.bestNumerator);
-        mixed = mix(mixed, survey.bestDenominator);
-        mixed = mix(mixed, pivotsLeft());
-        return mix(mixed, savedCount);
+        return mix(mixed, survey.bestDenominator);
     }
 
     private long mixProblem(long hash) {
@@ -696,10 +696,6 @@ public final class SimplexDesk {
         return large;
     }
 
-    private static long quotient(long product, long divisor) {
-        return divisor == 0 ? 0 : product / divisor;
-    }
-
     /** A table of numbers; outside it a look answers 0, and a write does nothing. */
     private static final class Grid {
         private final int width;
@@ -722,6 +718,17 @@ public final class SimplexDesk {
             int place = row * width + column;
             if (row >= 0 && column >= 0 && column < width && place >= 0 && place < cells.length) {
                 cells[place] = number;
+            }
+        }
+
+        // Multiplies a row, and takes another one from it, so that its cell of a column becomes 0. The divisions leave
+        // no rest when the divisor is the factor of the turn before, since their results are determinants then.
+        void clear(int row, int by, int column, int last, long divisor) {
+            long factor = at(by, column);
+            long share = at(row, column);
+            for (int place = 0; place <= last; place++) {
+                long number = at(row, place) * factor - share * at(by, place);
+                put(row, place, divisor == 0 ? 0 : number / divisor);
             }
         }
 
@@ -920,24 +927,23 @@ public final class SimplexDesk {
         }
 
         // The row with the least ratio, of several the one that names the lowest column; -1 if none has a ratio.
+        // Ratios are compared without a division, since the entries of both rows are above 0.
         int leastRow(int column) {
             int least = -1;
+            long leastEntry = 0;
+            long leastSide = 0;
             for (int row = 0; row < rows; row++) {
-                if (cells.at(row, column) > 0) {
-                    int order = least < 0 ? -1 : compareRatios(row, least, column);
-                    if (order < 0 || order == 0 && namedBy(row) < namedBy(least)) {
-                        least = row;
-                    }
+                long entry = cells.at(row, column);
+                long side = cells.at(row, columns);
+                long order = side * leastEntry - leastSide * entry;
+                if (entry > 0 && (least < 0 || order < 0
+                        || order == 0 && named.at(0, row) < named.at(0, least))) {
+                    least = row;
+                    leastEntry = entry;
+                    leastSide = side;
                 }
             }
             return least;
-        }
-
-        // Both rows have an entry above 0 in the column, so the ratios are compared without a division.
-        private int compareRatios(int row, int other, int column) {
-            long ratio = cells.at(row, columns) * cells.at(other, column);
-            long otherRatio = cells.at(other, columns) * cells.at(row, column);
-            return Long.compare(ratio, otherRatio);
         }
 
         int obstacle(int row, int column) {
@@ -950,7 +956,8 @@ public final class SimplexDesk {
             if (entry(row, column) <= 0) {
                 return 3;
             }
-            return compareRatios(leastRow(column), row, column) < 0 ? 4 : 0;
+            int least = leastRow(column);
+            return side(least) * entry(row, column) < side(row) * entry(least, column) ? 4 : 0;
         }
 
         // The column that a rule chooses, if the basis is neither optimal nor has a ray.
@@ -975,8 +982,7 @@ public final class SimplexDesk {
             return gain > chosenGain;
         }
 
-        // Rewrites the equations so that the row names the column. The divisions by the old denominator leave no
-        // rest, since their results are determinants.
+        // Rewrites the equations so that the row names the column.
         void turn(int row, int column) {
             long factor = entry(row, column);
             if (factor <= 0) {
@@ -984,19 +990,11 @@ public final class SimplexDesk {
             }
             for (int other = 0; other <= rows; other++) {
                 if (other != row) {
-                    rewrite(other, row, column, factor);
+                    cells.clear(other, row, column, columns, denominator);
                 }
             }
             named.put(0, row, column);
             denominator = factor;
-        }
-
-        private void rewrite(int other, int row, int column, long factor) {
-            long share = entry(other, column);
-            for (int place = 0; place <= columns; place++) {
-                long number = entry(other, place) * factor - share * entry(row, place);
-                cells.put(other, place, quotient(number, denominator));
-            }
         }
 
         // What a column gets more along the ray.
@@ -1292,13 +1290,12 @@ public final class SimplexDesk {
                     return false;
                 }
                 swap(found, index);
-                long factor = cells.at(index, index);
                 for (int row = 0; row < size; row++) {
                     if (row != index) {
-                        rewrite(row, index, factor);
+                        cells.clear(row, index, index, size, denominator);
                     }
                 }
-                denominator = factor;
+                denominator = cells.at(index, index);
             }
             return true;
         }
@@ -1317,14 +1314,6 @@ public final class SimplexDesk {
                 long number = cells.at(row, place);
                 cells.put(row, place, cells.at(other, place));
                 cells.put(other, place, number);
-            }
-        }
-
-        private void rewrite(int row, int index, long factor) {
-            long share = cells.at(row, index);
-            for (int place = 0; place <= size; place++) {
-                long number = cells.at(row, place) * factor - share * cells.at(index, place);
-                cells.put(row, place, quotient(number, denominator));
             }
         }
     }
