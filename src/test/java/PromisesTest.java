@@ -135,9 +135,11 @@ public final class PromisesTest {
         Check.same("coefficientOf(3, 1)", desk.coefficientOf(3, 1), 0);
         Check.refusesState(desk, "addConstraint(5)", () -> desk.addConstraint(5));
         Check.refusesArgument(desk, "addConstraint(100), full", () -> desk.addConstraint(100));
+        desk.setCoefficient(3, 0, 7);
         desk.setCoefficient(3, 1, 7);
         desk.dropConstraint(3);
         desk.addConstraint(1);
+        Check.same("coefficient of a constraint that came anew", desk.coefficientOf(3, 0), 0);
         Check.same("coefficient of a constraint that came anew", desk.coefficientOf(3, 1), 0);
     }
 
@@ -193,7 +195,9 @@ public final class PromisesTest {
         Check.undoable(desk, "dropConstraint(1)", 2, () -> desk.dropConstraint(1));
         Check.same("begun anew", desk.columnOf(0), 3);
         Check.same("moved bound", desk.boundOf(1), 8);
+        Check.same("moved coefficient", desk.coefficientOf(1, 0), 3);
         Check.same("moved coefficient", desk.coefficientOf(1, 1), 4);
+        Check.same("moved coefficient", desk.coefficientOf(1, 2), 2);
         Check.same("bound before it", desk.boundOf(0), 5);
         Check.undoable(desk, "dropConstraint(0)", 1, () -> desk.dropConstraint(0));
         Check.same("moved bound", desk.boundOf(0), 8);
@@ -820,6 +824,26 @@ public final class PromisesTest {
         expectBases(solved, 6, 6, "13/1");
         SimplexDesk two = Check.desk("v1;m1;c3<2;c2<3");
         expectBases(two, 2, 2, "2/3");
+        // The lowest column of a basis has no factor in the first equation.
+        expectBases(Check.desk("v2;m1,1;c0,1<3;c1,0<4"), 4, 4, "7/1");
+        eachAlone();
+    }
+
+    // Each answer by a desk that has told no other: none may rest on what another call has left.
+    private static void eachAlone() {
+        Check.same("feasibleBases alone", Check.desk("v1;m1;c3<2;c2<3").feasibleBases(), 2);
+        Check.same("unlikeValues alone", Check.desk("v1;m1;c3<2;c2<3").unlikeValues(), 2);
+        Check.same("bestNumerator alone", Check.desk("v1;m1;c3<2;c2<3").bestNumerator(), 2);
+        Check.same("bestDenominator alone", Check.desk("v1;m1;c3<2;c2<3").bestDenominator(), 3);
+        SimplexDesk numerator = Check.desk(THREE);
+        numerator.step();
+        Check.same("dualNumeratorByEquations alone", numerator.dualNumeratorByEquations(0), 5);
+        SimplexDesk denominator = Check.desk(THREE);
+        denominator.step();
+        Check.same("dualDenominatorByEquations alone", denominator.dualDenominatorByEquations(0), 2);
+        SimplexDesk bounds = Check.desk("v1;m1;c2<5");
+        Check.same("solvedDenominator alone", bounds.solvedDenominator(0, 7), 2);
+        Check.same("solvedNumerator after another bound", bounds.solvedNumerator(0, 9), 9);
     }
 
     private static void expectBases(SimplexDesk desk, int feasible, int unlike, String best) {

@@ -30,7 +30,8 @@ public final class RandomRunsTest {
     }
 
     public static void main(String[] args) throws Exception {
-        for (long seed = 0; seed < RUNS; seed++) {
+        int runs = args.length > 0 ? Integer.parseInt(args[0]) : RUNS;
+        for (long seed = 0; seed < runs; seed++) {
             RandomRunsTest run = new RandomRunsTest(seed);
             String fault = run.go();
             if (fault != null) {
@@ -38,7 +39,7 @@ public final class RandomRunsTest {
                 System.exit(1);
             }
         }
-        System.out.println("RandomRunsTest: " + RUNS + " runs are as the reference says");
+        System.out.println("RandomRunsTest: " + runs + " runs are as the reference says");
     }
 
     private String go() throws Exception {
