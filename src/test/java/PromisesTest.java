@@ -9,7 +9,6 @@ public final class PromisesTest {
     private static final String THREE = "v3;m5,4,3;c2,3,1<5;c4,1,2<11;c3,4,2<8";
     // The column 0 is a ray from the start; after the pivot (0, 1) it is one with halves.
     private static final String OPEN = "v2;m1,1;c-3,2<3";
-    private static final String[] CYCLE = {"2,0,8,4", "-7,3,3,-6", "-1,1,7,1", "6,-6,-9,7", "2,-1,3,3"};
     private static final int LOW = Integer.MIN_VALUE;
     private static final int HIGH = Integer.MAX_VALUE;
 
@@ -277,7 +276,7 @@ public final class PromisesTest {
         later.setCoefficient(1, 0, -1);
         later.setCoefficient(1, 1, 1);
         Check.same("solve", later.solve(), 2);
-        SimplexDesk cycle = cycle(1);
+        SimplexDesk cycle = Twins.cycle(1);
         Check.undoable(cycle, "solve in a cycle", 40, cycle::solve);
         Check.same("isOptimal", cycle.isOptimal(), false);
         Check.same("hasRay", cycle.hasRay(), false);
@@ -285,36 +284,9 @@ public final class PromisesTest {
         Check.same("solve again", cycle.solve(), 40);
         Check.same("allPivots", cycle.allPivots(), 80);
         Check.same("pivots", cycle.pivots(), 80);
-        SimplexDesk lowest = cycle(0);
+        SimplexDesk lowest = Twins.cycle(0);
         Check.same("less than 40 by the rule 0", lowest.solve() < 40, true);
         Check.same("an end by the rule 0", lowest.isOptimal() || lowest.hasRay(), true);
-    }
-
-    private static SimplexDesk cycle(int rule) {
-        SimplexDesk desk = new SimplexDesk();
-        desk.setVariables(4);
-        for (int row = 0; row < CYCLE.length; row++) {
-            String[] factors = CYCLE[row].split(",");
-            if (row > 0) {
-                desk.addConstraint(0);
-            }
-            for (int variable = 0; variable < 4; variable++) {
-                int factor = Integer.parseInt(factors[variable]);
-                if (row == 0) {
-                    desk.setProfit(variable, factor);
-                } else {
-                    desk.setCoefficient(row - 1, variable, factor);
-                }
-            }
-        }
-        desk.setRule(rule);
-        // Undo until no saved state is left, so that the test can undo what it does.
-        desk.keep();
-        while (desk.savedStates() > 0) {
-            desk.undo();
-        }
-        desk.restore();
-        return desk;
     }
 
     // Promise 12, 27
@@ -929,7 +901,7 @@ public final class PromisesTest {
         }
         Check.same("pivotsLeft, optimal", desk.pivotsLeft(), 0);
         Check.same("pivotsLeft, ray", Check.desk(OPEN).pivotsLeft(), 0);
-        SimplexDesk cycle = cycle(1);
+        SimplexDesk cycle = Twins.cycle(1);
         Check.same("pivotsLeft in a cycle", cycle.pivotsLeft(), 40);
         cycle.setRule(0);
         Check.same("pivotsLeft by the rule 0", cycle.pivotsLeft() < 40, true);
@@ -994,7 +966,7 @@ public final class PromisesTest {
         }
         Check.refusesState(open, "solvedNumerator, ray", () -> open.solvedNumerator(0, 5));
         Check.refusesState(open, "solvedDenominator, ray", () -> open.solvedDenominator(0, 5));
-        SimplexDesk cycle = cycle(1);
+        SimplexDesk cycle = Twins.cycle(1);
         Check.refusesState(cycle, "solvedNumerator, 40 pivots", () -> cycle.solvedNumerator(3, 0));
         Check.refusesState(cycle, "solvedDenominator, 40 pivots", () -> cycle.solvedDenominator(3, 0));
     }
@@ -1011,11 +983,11 @@ public final class PromisesTest {
         for (String text : new String[] {"v2;m0,0", SMALL, THREE, OPEN, "v4;m0,-1,9,-9;c-9,8,0,7<0;c1,2,3,4<99;c0,0,0,0<10",
             "v1;m1;c3<4", "v1;m1;c9<1", "v1;m9;c1<99"}) {
             for (int rule = 0; rule < 3; rule++) {
+                Digests.expect(Check.desk(text, rule), "");
                 SimplexDesk desk = Check.desk(text, rule);
-                expectDigest(desk);
                 desk.solve();
                 Check.enter(desk, "~!");
-                expectDigest(desk);
+                Digests.expect(desk, "~!");
             }
         }
         SimplexDesk desk = new SimplexDesk();
@@ -1026,64 +998,6 @@ public final class PromisesTest {
         }
         Check.same("digest of a new object", desk.digest(), hash);
         Check.looks(desk, "digest", desk::digest);
-    }
-
-    private static void expectDigest(SimplexDesk desk) {
-        List<Long> list = new ArrayList<>();
-        put(list, desk.variables(), desk.constraints(), desk.rule(), truth(desk.isOptimal()), truth(desk.hasRay()));
-        put(list, desk.pivots(), desk.allPivots(), desk.idlePivots(), desk.valueNumerator(), desk.valueDenominator());
-        put(list, desk.dualValueNumerator(), desk.dualValueDenominator(), desk.feasibleBases(), desk.unlikeValues());
-        put(list, desk.bestNumerator(), desk.bestDenominator(), desk.pivotsLeft(), desk.savedStates());
-        for (int variable = 0; variable < desk.variables(); variable++) {
-            put(list, desk.profitOf(variable));
-        }
-        for (int constraint = 0; constraint < desk.constraints(); constraint++) {
-            for (int variable = 0; variable < desk.variables(); variable++) {
-                put(list, desk.coefficientOf(constraint, variable));
-            }
-            put(list, desk.boundOf(constraint), desk.dualNumerator(constraint), desk.dualDenominator(constraint));
-            put(list, desk.dualNumeratorByEquations(constraint), desk.dualDenominatorByEquations(constraint));
-            put(list, desk.leastBound(constraint), desk.greatestBound(constraint));
-        }
-        int columns = desk.variables() + desk.constraints();
-        for (int column = 0; column < columns; column++) {
-            put(list, truth(desk.isNamed(column)), desk.reducedNumerator(column), desk.reducedDenominator(column));
-            put(list, desk.givenNumerator(column), desk.givenDenominator(column));
-        }
-        for (int row = 0; row < desk.constraints(); row++) {
-            put(list, desk.columnOf(row));
-            for (int column = 0; column < columns; column++) {
-                put(list, desk.entryNumerator(row, column), desk.entryDenominator(row, column));
-            }
-        }
-        if (desk.hasRay()) {
-            put(list, desk.rayColumn());
-        } else if (!desk.isOptimal()) {
-            put(list, desk.nextColumn(), desk.nextRow());
-        }
-        put(list, Double.doubleToLongBits(desk.value()));
-        long hash = 4339;
-        for (long number : list) {
-            hash = 31 * hash + number;
-        }
-        long got = desk.digest();
-        // The buffer can be told only by clearing it: it is "~!" or empty here.
-        int length = desk.clearBuffer();
-        hash = 31 * hash + length;
-        if (length == 2) {
-            hash = 31 * (31 * hash + '~') + '!';
-        }
-        Check.same("digest", got, hash);
-    }
-
-    private static void put(List<Long> list, long... numbers) {
-        for (long number : numbers) {
-            list.add(number);
-        }
-    }
-
-    private static int truth(boolean truth) {
-        return truth ? 1 : 0;
     }
 
     // The greatest numbers that can occur: determinants of 4 rows with factors of 9, and bounds of 99.

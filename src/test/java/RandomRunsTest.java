@@ -12,6 +12,8 @@ import java.util.Random;
  */
 public final class RandomRunsTest {
     private static final int RUNS = 700;
+    // What an object answers after so many calls is free.
+    private static final int MOST_CALLS = 512;
     private static final int[] FAR = {Integer.MIN_VALUE, Integer.MAX_VALUE, -1000, 1000, Integer.MIN_VALUE + 4};
     private static final String[] CHANGES = {"setVariables", "setProfit", "setProfit", "addConstraint", "addConstraint",
         "setCoefficient", "setCoefficient", "setCoefficient", "setBound", "dropConstraint", "begin", "pivot", "pivot",
@@ -23,6 +25,7 @@ public final class RandomRunsTest {
     private final ReferenceDesk reference = new ReferenceDesk();
     private final StringBuilder story = new StringBuilder();
     private final boolean degenerate;
+    private int calls;
 
     private RandomRunsTest(long seed) {
         random = new Random(seed);
@@ -49,8 +52,8 @@ public final class RandomRunsTest {
                 return fault;
             }
         }
-        int calls = 20 + random.nextInt(40);
-        for (int call = 0; call < calls; call++) {
+        int changes = 20 + random.nextInt(40);
+        for (int change = 0; change < changes; change++) {
             String fault = random.nextInt(6) == 0 ? enter(randomText()) : change();
             if (fault == null) {
                 fault = looks();
@@ -169,12 +172,16 @@ public final class RandomRunsTest {
         }
         boolean isColumn = index == 1 || name.startsWith("reduced") || name.startsWith("given") || name.startsWith("ray")
                 || name.equals("isNamed");
-        int many = isColumn ? desk.variables() + desk.constraints() : name.contains("rofit") ? desk.variables()
-                : desk.constraints();
+        int many = isColumn ? reference.variables() + reference.constraints()
+                : name.contains("rofit") ? reference.variables() : reference.constraints();
         return outside || many == 0 ? random.nextInt(many + 3) - 1 : random.nextInt(many);
     }
 
     private String compare(Method method, Object... arguments) throws Exception {
+        if (calls == MOST_CALLS) {
+            return null;
+        }
+        calls++;
         String got = answer(desk, method, arguments);
         String due = answer(reference, ReferenceDesk.class.getMethod(method.getName(), method.getParameterTypes()), arguments);
         story.append(method.getName()).append(List.of(arguments)).append(" -> ").append(got).append('\n');
