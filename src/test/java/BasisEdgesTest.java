@@ -12,6 +12,7 @@ public final class BasisEdgesTest {
         optimalBelowAndAbove();
         rayAtZero();
         rayOfALaterColumn();
+        rayOfASlack();
         rayWithoutARow();
         rayAndOptimal();
         beginAnswers();
@@ -157,6 +158,25 @@ public final class BasisEdgesTest {
             desk.setProfit(column, 0);
             Check.same("hasRay", desk.hasRay(), false);
         }
+    }
+
+    // "some column": also that of a slack.
+    private static void rayOfASlack() {
+        Check.begin("a ray of a slack");
+        SimplexDesk desk = Check.desk("v2;m2,1;c2,-3<4;c2,-1<8");
+        desk.pivot(0, 0);
+        Check.same("hasRay", desk.hasRay(), false);
+        desk.pivot(1, 1);
+        Check.same("hasRay", desk.hasRay(), true);
+        Check.same("rayColumn", desk.rayColumn(), 2);
+        Check.same("whyNoPivot(1, 2)", desk.whyNoPivot(1, 2), 3);
+        Check.text("step", Twins.answer(desk, SimplexDesk::step), Twins.STATE.getName());
+        Check.same("solve", desk.solve(), 0);
+        SimplexDesk solved = Check.desk("v2;m-1,2;c-3,3<7;c-3,2<3");
+        Check.same("pivotsLeft", solved.pivotsLeft(), 2);
+        Check.same("solve", solved.solve(), 2);
+        Check.same("rayColumn", solved.rayColumn(), 3);
+        Check.text("solvedNumerator", Twins.answer(solved, d -> d.solvedNumerator(0, 7)), Twins.STATE.getName());
     }
 
     private static void rayWithoutARow() {

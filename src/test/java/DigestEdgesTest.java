@@ -128,6 +128,10 @@ public final class DigestEdgesTest {
             desk.setCoefficient(1, column, 0);
             Digests.expect(desk, "");
         }
+        SimplexDesk slack = Check.desk("v2;m2,1;c2,-3<4;c2,-1<8");
+        slack.pivot(0, 0);
+        slack.pivot(1, 1);
+        Digests.expect(slack, "");
         for (int rule = 0; rule <= 2; rule++) {
             SimplexDesk desk = Check.desk("v3;m1,3,2;c1,9,1<9", rule);
             Digests.expect(desk, "");

@@ -22,9 +22,27 @@ import java.util.stream.Collectors;
 public final class LanguageTest {
     private static final Path DOC = Path.of("../shared/DOC.md");
     private static final Path SOURCE = Path.of("src/main/java/SimplexDesk.java");
-    private static final Set<String> LIBRARY = Set.of("Object.<init>", "Math.max", "Math.min", "Math.abs",
-            "Integer.bitCount", "System.arraycopy", "IllegalArgumentException.<init>",
-            "IllegalStateException.<init>", "IndexOutOfBoundsException.<init>");
+    // What rule 4 lists, and what the compiler adds for enums, records and boxes; each with its descriptor.
+    private static final Pattern LIBRARY = Pattern.compile("java/lang/(?:(?:Object|Record|Enum)\\.<init>.*"
+            + "|String\\.(?:<init>\\(\\[C\\)V|(?:length|charAt|isEmpty|equals|indexOf|substring|toCharArray)\\(.*)"
+            + "|StringBuilder\\.(?:<init>|append\\((?:C|Ljava/lang/String;|I)\\)|charAt|setCharAt|setLength|deleteCharAt"
+            + "|reverse|length|toString).*"
+            + "|(?:Integer|Long|Math)\\.\\w+(?<!Exact|random)\\([IJ]*\\)[IJ]|Integer\\.(?:valueOf\\(I\\)|intValue).*"
+            + "|Enum\\.(?:valueOf|ordinal)\\(.*|Iterable\\.iterator.*|Comparable\\.compareTo.*"
+            + "|System\\.arraycopy.*|runtime/ObjectMethods\\.bootstrap.*"
+            + "|(?:IllegalState|IllegalArgument|IndexOutOfBounds|Arithmetic|UnsupportedOperation|Runtime)Exception"
+            + "\\.<init>\\((?:Ljava/lang/String;)?\\)V)"
+            + "|java/util/(?:NoSuchElementException\\.<init>\\((?:Ljava/lang/String;)?\\)V"
+            + "|(?:Array)?List\\.(?:<init>|add|get|set|remove|size|isEmpty|clear|iterator|of)\\(.*"
+            + "|Iterator\\.(?:hasNext|next).*|Arrays\\.(?:copyOf|copyOfRange|fill)\\(.*|Objects\\.requireNonNull.*)"
+            + "|\\[.*\\.clone\\(.*");
+    private static final Set<Class<?>> CONSTANTS = Set.of(int.class, long.class, boolean.class, char.class, String.class,
+            int[].class, long[].class, char[].class, byte[].class);
+    private static final String IMPORTS = "java\\.util\\.(?:ArrayList|List|Iterator|Arrays|NoSuchElementException);";
+    private static final String CAUGHT = "(?:IllegalState|IllegalArgument|IndexOutOfBounds|Arithmetic|UnsupportedOperation"
+            + "|NoSuchElement|Runtime)Exception ";
+    // The room of one run: 600,000 objects of 16 bytes at least, and 7,300,000 fields and elements of up to 8 bytes.
+    private static final long ROOM = 600_000 * 16 + 7_300_000 * 4;
 
     private LanguageTest() {
     }
@@ -93,19 +111,20 @@ public final class LanguageTest {
         }
         for (Class<?> type : classes()) {
             boolean inside = type != SimplexDesk.class;
-            Check.same(type + " is private and static", inside == (Modifier.isPrivate(type.getModifiers())
-                    && Modifier.isStatic(type.getModifiers())), true);
+            Check.same(type + " is neither public nor protected", inside
+                    && (type.getModifiers() & (Modifier.PUBLIC | Modifier.PROTECTED)) != 0, false);
             int fields = 0;
             for (Field field : type.getDeclaredFields()) {
                 boolean constant = Modifier.isStatic(field.getModifiers());
                 fields += constant ? 0 : 1;
+                boolean own = type.isEnum() || field.getType().isArray() && field.getType().getComponentType().isEnum();
                 Check.same(field + " is constant", !constant || Modifier.isFinal(field.getModifiers())
-                        && field.getType().isPrimitive(), true);
+                        && (own || CONSTANTS.contains(field.getType())), true);
             }
             Check.same(type + " has at most twenty fields", fields <= 20, true);
             for (Method method : type.getDeclaredMethods()) {
                 Check.same(method + " has at most seven parameters", method.getParameterCount() <= 7, true);
-                Check.same(method + " has a name of its own", !Modifier.isPublic(method.getModifiers())
+                Check.same(method + " has a name of its own", Modifier.isPrivate(method.getModifiers())
                         && names.contains(method.getName()), false);
             }
         }
@@ -119,7 +138,7 @@ public final class LanguageTest {
             try (DataInputStream in = new DataInputStream(SimplexDesk.class.getResourceAsStream(file))) {
                 for (String name : methodsOf(in)) {
                     boolean own = name.startsWith("SimplexDesk");
-                    Check.same(name + " is of the library", own || LIBRARY.contains(name.replace("java/lang/", "")), true);
+                    Check.same(name + " is of the library", own || LIBRARY.matcher(name).matches(), true);
                 }
             }
         }
@@ -149,19 +168,19 @@ public final class LanguageTest {
                 pairs[index][0] = in.readUnsignedShort();
                 pairs[index][1] = in.readUnsignedShort();
                 isMethod[index] = tag == 10 || tag == 11;
-                Check.same("no call that is made at run time", tag == 17 || tag == 18, false);
             }
         }
         Set<String> names = new TreeSet<>();
         for (int index = 1; index < size; index++) {
             if (isMethod[index]) {
-                names.add(texts[pairs[pairs[index][0]][0]] + "." + texts[pairs[pairs[index][1]][0]]);
+                int[] nameAndType = pairs[pairs[index][1]];
+                names.add(texts[pairs[pairs[index][0]][0]] + "." + texts[nameAndType[0]] + texts[nameAndType[1]]);
             }
         }
         return names;
     }
 
-    // Rules 2, 4 and 6: words that the source must not have, comments aside; rule 11: short methods.
+    // Rules 1, 2, 4, 6 and 9: words that the source must not have, comments aside; rule 11: short methods.
     private static void words() throws IOException {
         Check.begin("the source");
         byte[] bytes = Files.readAllBytes(SOURCE);
@@ -169,10 +188,11 @@ public final class LanguageTest {
             Check.same("a sign of 1 to 127", sign > 0, true);
         }
         String source = new String(bytes, StandardCharsets.US_ASCII).replaceAll("(?s)/\\*.*?\\*/", "").replaceAll("//.*", "");
-        for (String word : new String[] {"->", "::", "\\bimport\\b", "\\bpackage\\b", "\\bcatch\\b", "\\btry\\b",
-            "\\bfinally\\b", "\\bsynchronized\\b", "\\bassert\\b", "Exact\\b", "\\binstanceof\\b", "\\bvar\\b",
-            "\\bnative\\b", "\\bvolatile\\b", "\\bDouble\\b", "\\bLong\\b", "\\bwhile \\(true\\)"}) {
-            Check.same("the source has " + word, Pattern.compile(word).matcher(source).find(), false);
+        String withoutCases = source.replaceAll("\\b(?:case [^;{}]*?|default )->", "");
+        for (String word : new String[] {"->", "::", "\\bimport (?!" + IMPORTS + ")", "\\bpackage\\b",
+            "\\bcatch \\((?!" + CAUGHT + ")", "\\bfinally\\b", "\\bsynchronized\\b", "\\bassert\\b", "Exact\\b",
+            "\\bgetMessage\\b", "\\bDouble\\b", "\\bFloat\\b", "\\bwhile \\(true\\)", "\\bfor \\(;;\\)", "\\btry \\("}) {
+            Check.same("the source has " + word, Pattern.compile(word).matcher(withoutCases).find(), false);
         }
         Matcher method = Pattern.compile("(?m)^( +)[^ ].*\\(.*\\).*\\{\n(?:(?:\\1 .*)?\n)*\\1\\}").matcher(source);
         while (method.find()) {
@@ -180,7 +200,7 @@ public final class LanguageTest {
         }
     }
 
-    // Rule 12 and the room of a run: no call makes an object, but for the exceptions.
+    // Rule 12: what the dearest calls of a run make stays within the room.
     private static void allocations() {
         Check.begin("the room");
         com.sun.management.ThreadMXBean threads = (com.sun.management.ThreadMXBean) ManagementFactory.getThreadMXBean();
@@ -198,7 +218,7 @@ public final class LanguageTest {
                 desk.undo();
             }
             long bytes = threads.getThreadAllocatedBytes(thread) - before;
-            Check.same("the bytes of 420 calls, " + bytes + ", are few", warm == 0 || bytes < 10_000, true);
+            Check.same("the bytes of 420 calls, " + bytes + ", are few", warm == 0 || bytes < ROOM, true);
         }
     }
 }

@@ -24,6 +24,8 @@ public final class NumberEdgesTest {
         denominatorsOfAll();
         givenOfColumnsThatAreNotNamed();
         equationsHold();
+        reducedCostsAndValue();
+        valueNeverFalls();
         valueAsDouble();
         dualsOfSlacks();
         dualsAnswerTheEquations();
@@ -246,6 +248,68 @@ public final class NumberEdgesTest {
         }
     }
 
+    // "its profit less the sum, over the rows, of the profit of the column of the row times the entry"; "the sum, over
+    // the rows, of the profit of the column of the row times the right side"
+    private static void reducedCostsAndValue() {
+        Check.begin("reduced costs and the value");
+        for (String text : TEXTS) {
+            for (int way = 0; way < 12; way++) {
+                SimplexDesk desk = walked(text, way % 3, way / 3);
+                double value = 0;
+                double[] reduced = new double[desk.variables() + desk.constraints()];
+                for (int column = 0; column < reduced.length; column++) {
+                    reduced[column] = profit(desk, column);
+                }
+                for (int row = 0; row < desk.constraints(); row++) {
+                    int named = desk.columnOf(row);
+                    double profit = profit(desk, named);
+                    value += profit * desk.givenNumerator(named) / desk.givenDenominator(named);
+                    for (int column = 0; column < reduced.length; column++) {
+                        reduced[column] -= profit * desk.entryNumerator(row, column) / desk.entryDenominator(row, column);
+                    }
+                }
+                near("value", desk.valueNumerator(), desk.valueDenominator(), value);
+                for (int column = 0; column < reduced.length; column++) {
+                    near("reduced", desk.reducedNumerator(column), desk.reducedDenominator(column), reduced[column]);
+                }
+            }
+        }
+    }
+
+    private static int profit(SimplexDesk desk, int column) {
+        return column < desk.variables() ? desk.profitOf(column) : 0;
+    }
+
+    private static void near(String what, long numerator, long denominator, double due) {
+        boolean near = Math.abs((double) numerator / denominator - due) < 1e-9;
+        Check.same(what + " " + numerator + "/" + denominator + " is " + due, near, true);
+    }
+
+    // "(So the value does not fall by a pivot. A pivot that leaves it as it was is called idle.)"
+    private static void valueNeverFalls() {
+        Check.begin("the value does not fall");
+        for (String text : TEXTS) {
+            for (int way = 0; way < 6; way++) {
+                SimplexDesk start = walked(text, way % 3, way / 3);
+                int columns = start.variables() + start.constraints();
+                for (int cell = 0; cell < start.constraints() * columns; cell++) {
+                    int row = cell / columns;
+                    int column = cell % columns;
+                    SimplexDesk desk = walked(text, way % 3, way / 3);
+                    if (desk.whyNoPivot(row, column) == 0) {
+                        int idle = desk.idlePivots();
+                        long top = desk.valueNumerator();
+                        long bottom = desk.valueDenominator();
+                        desk.pivot(row, column);
+                        long more = desk.valueNumerator() * bottom - top * desk.valueDenominator();
+                        Check.same("the value falls", more < 0, false);
+                        Check.same("idlePivots", desk.idlePivots(), more == 0 ? idle + 1 : idle);
+                    }
+                }
+            }
+        }
+    }
+
     // value: "Returns the numerator of the value, as a double, divided by the denominator."
     private static void valueAsDouble() {
         Check.begin("the value as a double");
@@ -349,6 +413,13 @@ public final class NumberEdgesTest {
             }
             Check.fraction("ray(" + column + ")", desk.rayNumerator(column), desk.rayDenominator(column),
                     numerator + "/" + denominator);
+        }
+        SimplexDesk slack = Check.desk("v2;m2,1;c2,-3<4;c2,-1<8");
+        slack.pivot(0, 0);
+        slack.pivot(1, 1);
+        String[] due = {"1/4", "1/2", "1/1", "0/1"};
+        for (int column = 0; column < 4; column++) {
+            Check.fraction("ray(" + column + ")", slack.rayNumerator(column), slack.rayDenominator(column), due[column]);
         }
         SimplexDesk bare = Twins.sized(4, 0);
         for (int column = 0; column < 4; column++) {
@@ -511,6 +582,8 @@ public final class NumberEdgesTest {
         expectBounds(walked("v1;m1;c1<1;c1<2", 0, 1), 1, 1, 99);
         expectBounds(walked("v1;m1;c1<0;c1<2", 0, 1), 1, 0, 99);
         expectBounds(walked("v1;m1;c1<98;c1<99", 0, 1), 1, 98, 99);
+        // The right side stays 0 or more down to the bound -8: the first variable is 10.
+        expectBounds(walked("v2;m1,1;c1,-1<1;c0,1<9", 0, 2), 0, 0, 99);
     }
 
     // greatestBound: "up to 99"; "at least that of now"
@@ -523,6 +596,10 @@ public final class NumberEdgesTest {
         expectBounds(walked("v1;m1;c1<99;c1<99", 0, 1), 0, 0, 99);
         expectBounds(walked("v1;m1;c1<0;c1<0", 0, 1), 0, 0, 0);
         expectBounds(walked("v1;m1;c1<0;c1<0", 0, 1), 1, 0, 99);
+        // No right side falls up to the bound 108.
+        expectBounds(walked("v1;m1;c9<9;c1<12", 0, 1), 0, 0, 99);
+        expectBounds(walked("v1;m1;c9<9;c1<11", 0, 1), 0, 0, 99);
+        expectBounds(walked("v1;m1;c9<9;c1<10", 0, 1), 0, 0, 90);
     }
 
     // The last bound with which a right side is 0, and where it would be a fraction, the next integer within.

@@ -24,6 +24,7 @@ public final class TextEdgesTest {
         clearBufferLengths();
         loadSizes();
         loadBeginsAnew();
+        loadReplaces();
         loadClears();
         loadRefused();
         loadSixty();
@@ -264,6 +265,25 @@ public final class TextEdgesTest {
         Check.same("load", desk.load(), 3);
         Check.text("the state", Twins.state(desk), "rule 2, pivots 0 of 2, idle 0, profits 5 4 3; row of 3: 2 3 1 < 5;"
                 + " row of 4: 4 1 2 < 11; row of 5: 3 4 2 < 8");
+    }
+
+    // "Replaces the problem": nothing is left of the one before, also where the new one is smaller.
+    private static void loadReplaces() {
+        Check.begin("load of a smaller problem");
+        SimplexDesk desk = Check.desk(Twins.FULL);
+        Check.enter(desk, "v1;m9");
+        Check.same("load", desk.load(), 0);
+        Check.same("setVariables", desk.setVariables(4), 1);
+        Check.same("addConstraint", desk.addConstraint(8), 0);
+        for (int variable = 0; variable < 4; variable++) {
+            Check.same("profitOf", desk.profitOf(variable), variable == 0 ? 9 : 0);
+            Check.same("coefficientOf", desk.coefficientOf(0, variable), 0);
+        }
+        SimplexDesk second = Check.desk(Twins.FULL);
+        Check.enter(second, "v2;m1,2;c3,4<5");
+        Check.same("load", second.load(), 1);
+        Check.same("setVariables", second.setVariables(4), 2);
+        Check.text("the state", Twins.state(second), "rule 0, pivots 0 of 0, idle 0, profits 1 2 0 0; row of 4: 3 4 0 0 < 5");
     }
 
     // "and clears the buffer"

@@ -17,6 +17,7 @@ public final class UndoEdgesTest {
         savedStatesAreNoPart();
         snapshotIsNoPart();
         whatAStateHolds();
+        idlePivotsOfAState();
         keepTakesTheLatest();
         keepIsACopy();
         savedStateIsACopy();
@@ -262,6 +263,26 @@ public final class UndoEdgesTest {
         desk.undo();
         desk.undo();
         Check.text("undo", Twins.state(desk), before);
+    }
+
+    private static void idlePivotsOfAState() {
+        Check.begin("the idle pivots of a state");
+        SimplexDesk desk = Check.desk("v2;m1,1;c1,0<0;c0,1<5");
+        desk.keep();
+        desk.step();
+        Check.same("idlePivots", desk.idlePivots(), 1);
+        Check.same("undo", desk.undo(), 1);
+        Check.same("idlePivots after undo", desk.idlePivots(), 0);
+        desk.solve();
+        desk.begin();
+        desk.solve();
+        Check.same("idlePivots", desk.idlePivots(), 2);
+        Check.same("undo", desk.undo(), 3);
+        Check.same("idlePivots after undo", desk.idlePivots(), 1);
+        Check.same("restore", desk.restore(), 0);
+        Check.same("idlePivots after restore", desk.idlePivots(), 0);
+        Check.same("undo", desk.undo(), 3);
+        Check.same("idlePivots after undo of restore", desk.idlePivots(), 1);
     }
 
     // keep: "Takes a snapshot, in place of the one before."
