@@ -48,6 +48,7 @@ public final class BasisEdgesTest {
         idleAtZero();
         idleOfFormerBases();
         pivotsLeftIsSolve();
+        fiveHundredPivots();
         looksAtTheBasis();
         Check.end("BasisEdgesTest");
     }
@@ -714,6 +715,26 @@ public final class BasisEdgesTest {
             }
         }
         Twins.looks(() -> Twins.cycle(1), "pivotsLeft of a cycle", 40, SimplexDesk::pivotsLeft);
+    }
+
+    // "An object is used for at most 512 calls after it has been made": up to there the counts go on.
+    private static void fiveHundredPivots() {
+        Check.begin("counts after 500 calls");
+        SimplexDesk desk = Twins.cycle(1);
+        for (int made = 1; made <= 440; made++) {
+            desk.step();
+        }
+        Check.same("pivots", desk.pivots(), 440);
+        Check.same("allPivots", desk.allPivots(), 440);
+        Check.same("idlePivots", desk.idlePivots(), 440);
+        SimplexDesk solved = Twins.cycle(1);
+        for (int made = 1; made <= 440; made++) {
+            Check.same("solve", solved.solve(), 40);
+        }
+        Check.same("pivots", solved.pivots(), 17600);
+        Check.same("begin", solved.begin(), 17600);
+        Check.same("allPivots", solved.allPivots(), 17600);
+        Check.same("idlePivots", solved.idlePivots(), 17600);
     }
 
     // "looks at the basis"

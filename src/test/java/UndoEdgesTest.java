@@ -24,6 +24,7 @@ public final class UndoEdgesTest {
         restoreTwice();
         restoreAnswers();
         restoreWithSixStates();
+        fiveHundredChanges();
         Check.end("UndoEdgesTest");
     }
 
@@ -393,5 +394,32 @@ public final class UndoEdgesTest {
             Check.same("undo", desk.undo(), left);
             Check.same("profitOf(0)", desk.profitOf(0), left + 1);
         }
+    }
+
+    // "An object is used for at most 512 calls after it has been made": the last ones answer like the first ones.
+    private static void fiveHundredChanges() {
+        Check.begin("undo after 500 calls");
+        SimplexDesk desk = new SimplexDesk();
+        desk.keep();
+        int before = 0;
+        for (int change = 1; change <= 504; change++) {
+            int profit = change % 19 - 9;
+            Check.same("setProfit", desk.setProfit(1, profit), before);
+            before = profit;
+        }
+        for (int left = 5; left >= 0; left--) {
+            Check.same("undo", desk.undo(), left);
+        }
+        Check.same("profitOf(1) in the call 512", desk.profitOf(1), 498 % 19 - 9);
+        SimplexDesk turns = Check.desk(SMALL);
+        String first = Twins.state(turns);
+        turns.keep();
+        for (int turn = 0; turn < 220; turn++) {
+            Check.same("step", turns.step(), 0);
+            Check.same("restore", turns.restore(), 0);
+        }
+        Check.text("the snapshot", Twins.state(turns), first);
+        Check.same("undo", turns.undo(), 5);
+        Check.same("allPivots", turns.allPivots(), 1);
     }
 }
