@@ -6,6 +6,7 @@ import java.util.List;
 import java.util.Map;
 import java.util.Random;
 import java.util.Set;
+import java.util.stream.IntStream;
 
 /**
  * What the document says of every basis, put together again in fractions from what the desk tells, for the bases that
@@ -98,6 +99,28 @@ public final class TableauTest {
         }
         Check.begin(problem);
         Check.same("the bases that pivots reach are among all", values.size() <= maker.make().feasibleBases(), true);
+        for (int rule = 0; rule <= 2; rule++) {
+            solve(maker, rule);
+        }
+    }
+
+    // "To solve means to make pivots by the rule until the basis is optimal or has a ray, but at most 40."
+    private static void solve(Twins.Maker maker, int rule) {
+        int[][] way = new int[0][];
+        Told told = new Told(maker.make());
+        while (way.length < 40 && !told.isOptimal() && told.rayColumn() < 0) {
+            int column = told.chosenColumn(rule);
+            way = Arrays.copyOf(way, way.length + 1);
+            way[way.length - 1] = new int[] {told.rowToPivot(column), column};
+            told = new Told(after(maker, way));
+        }
+        SimplexDesk byHand = after(maker, way);
+        byHand.setRule(rule);
+        SimplexDesk desk = maker.make();
+        desk.setRule(rule);
+        Check.same("pivotsLeft by the rule " + rule, desk.pivotsLeft(), way.length);
+        Check.same("solve by the rule " + rule, desk.solve(), way.length);
+        Check.text("the state after solve by the rule " + rule, Twins.state(desk), Twins.state(byHand));
     }
 
     private static SimplexDesk after(Twins.Maker maker, int[][] way) {
@@ -118,6 +141,7 @@ public final class TableauTest {
         duals(told, basis.make());
         ray(told, basis.make());
         greatestValue(told, basis.make());
+        allBases(told, basis.make());
         reasons(told, basis.make());
         rules(told, basis.make());
         bounds(told, basis.make());
@@ -259,10 +283,71 @@ public final class TableauTest {
     private static void greatestValue(Told told, SimplexDesk desk) {
         Fraction best = Fraction.told("best", desk.bestNumerator(), desk.bestDenominator());
         Check.same("the value of a basis is above the best", told.value.isAbove(best), false);
-        Check.same("unlike values are at most the bases", desk.unlikeValues() <= desk.feasibleBases(), true);
         if (told.isOptimal()) {
             Check.text("the value of the optimal basis", told.value.toString(), best.toString());
         }
+    }
+
+    // "the number of feasible bases, bases with the same columns counted once, in whatever rows"; "the number of unlike
+    // values of feasible bases"; "the greatest value of all feasible bases"
+    private static void allBases(Told told, SimplexDesk desk) {
+        int feasible = 0;
+        Map<String, Fraction> values = new HashMap<>();
+        for (int set = 0; set < 1 << told.columns; set++) {
+            Fraction value = Integer.bitCount(set) == told.constraints ? valueOfColumns(told, set) : null;
+            if (value != null) {
+                feasible++;
+                values.put(value.toString(), value);
+            }
+        }
+        Fraction best = Fraction.told("best", desk.bestNumerator(), desk.bestDenominator());
+        Check.same("feasibleBases", desk.feasibleBases(), feasible);
+        Check.same("unlikeValues", desk.unlikeValues(), values.size());
+        Check.same("the best is a value of a basis", values.containsKey(best.toString()), true);
+        for (Fraction value : values.values()) {
+            Check.same("a value is above the best", value.isAbove(best), false);
+        }
+    }
+
+    // By determinants: each column is given that with the bounds in its place, over that of the columns. Null if the
+    // columns are no basis, or not a feasible one.
+    private static Fraction valueOfColumns(Told told, int set) {
+        int size = told.constraints;
+        long[][] factors = new long[size][];
+        int[] columns = IntStream.range(0, told.columns).filter(column -> (set >> column & 1) == 1).toArray();
+        long[] bounds = IntStream.range(0, size).mapToLong(told::bound).toArray();
+        for (int index = 0; index < size; index++) {
+            int column = columns[index];
+            factors[index] = IntStream.range(0, size).mapToLong(row -> told.firstFactor(row, column)).toArray();
+        }
+        long whole = determinant(factors, 0, 0);
+        if (whole == 0) {
+            return null;
+        }
+        Fraction value = Fraction.NULL;
+        for (int index = 0; index < size; index++) {
+            long[][] replaced = factors.clone();
+            replaced[index] = bounds;
+            Fraction given = Fraction.of(determinant(replaced, 0, 0)).over(Fraction.of(whole));
+            if (given.sign() < 0) {
+                return null;
+            }
+            value = value.plus(given.times(told.profit(columns[index])));
+        }
+        return value;
+    }
+
+    // The columns from one on, without the rows of a set, developed by the first of them.
+    private static long determinant(long[][] columns, int from, int without) {
+        long sum = from == columns.length ? 1 : 0;
+        long sign = 1;
+        for (int row = 0; from < columns.length && row < columns.length; row++) {
+            if ((without >> row & 1) == 0) {
+                sum += sign * columns[from][row] * determinant(columns, from + 1, without | 1 << row);
+                sign = -sign;
+            }
+        }
+        return sum;
     }
 
     // "unless one of these reasons holds, of which the first one is told"
